@@ -1359,7 +1359,7 @@ public final class CoilWorks {
             if (n == 0 || a.size < n || a.size >= LIMBS) return;
             int limbs = a.size - n + 1;
             // By a divisor whose highest limb is half the base or more a digit's first guess is 2 too much at most.
-            int shift = Long.numberOfLeadingZeros(b.limb[n - 1]) - (Long.SIZE - BITS);
+            int shift = Long.numberOfLeadingZeros(b.limb[n - 1]) - (64 - BITS);
             rest.shiftUp(shift);
             for (int j = limbs - 1; j >= 0; j--) limb[j] = rest.takeOut(b, shift, j);
             rest.shiftDown(shift, n, a.sign);
