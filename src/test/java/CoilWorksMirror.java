@@ -6,9 +6,11 @@ import java.util.Arrays;
  * that changes something is seen as well.
  */
 public final class CoilWorksMirror {
-    private static final int ROWS = 1500, CALLS = 250;
+    // An object is used for at most 512 calls; one round makes no more than 32 of them.
+    private static final int ROWS = 3000, MOST_CALLS = 512 - 32;
     private static final int BAD = -2, NO = -3, FULL = -4;
     private static int wrong = 0;
+    private static int calls = 0;
     private static long seed = 42L;
 
     public static void main(String[] args) {
@@ -42,7 +44,8 @@ public final class CoilWorksMirror {
         CoilWorks c = new CoilWorks();
         Mirror m = new Mirror();
         Mirror[] images = new Mirror[2];
-        for (int i = 0; i < CALLS; i++) {
+        calls = 0;
+        for (int i = 0; calls < MOST_CALLS; i++) {
             int which = any(0, 32);
             String call = "row " + number + ", call " + i;
             if (which == 0) {
@@ -62,7 +65,9 @@ public final class CoilWorksMirror {
         }
     }
 
+    /** Each due stands for one call of the object. */
     private static void due(String what, long got, long want) {
+        calls++;
         if (got == want) return;
         wrong++;
         if (wrong < 20) System.out.println(what + " answered " + got + ", due is " + want);

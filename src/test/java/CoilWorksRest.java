@@ -13,11 +13,15 @@ public final class CoilWorksRest {
         for (int i = 0; i < MACHINES; i++) {
             Made made = new Made(i % 4 == 3);
             made.checkRest();
+            made.anew();
             made.checkLinks();
             made.checkStores();
             if (i % 4 != 2) continue;
+            made.anew();
             made.checkStill();
+            made.anew();
             made.checkFits();
+            made.anew();
             made.checkGrade();
         }
         System.out.println(wrong == 0 ? "rest: " + MACHINES + " machines are as due" : "rest: " + wrong + " answers are not as due");
@@ -184,6 +188,11 @@ public final class CoilWorksRest {
             if (cut == from) return grow(order, from, to, depth, kind - 1);
             String sign = kind == 1 ? "-" : "|";
             return grow(order, from, cut, depth, kind - 1) + blank + sign + grow(order, cut, to, depth, kind);
+        }
+
+        /** An object is used for at most 512 calls: another one alike. */
+        void anew() {
+            c = build(iron);
         }
 
         CoilWorks build(int[][] irons) {
@@ -363,34 +372,34 @@ public final class CoilWorksRest {
         /** What is seen is made with one of the faults, so that some fault fits. */
         void checkFits() {
             int fault = any(0, 8 + pieces);
-            setFault(fault);
+            CoilWorks wrong = withFault(fault);
             int[][] rows = new int[any(0, 3)][];
             long[] flows = new long[rows.length];
-            c.forget();
             for (int i = 0; i < rows.length; i++) {
                 rows[i] = new int[] {any(0, 23), any(0, pieces - 1)};
-                flows[i] = flowAt(c, rows[i][0], rows[i][1]);
+                flows[i] = flowAt(wrong, rows[i][0], rows[i][1]);
             }
-            setFault(0);
             for (int i = 0; i < rows.length; i++) due("see", c.see(rows[i][0], rows[i][1], flows[i]), i + 1);
             int bits = 0;
             for (int f = 0; f < 9 + pieces; f++) {
-                setFault(f);
-                if (fitsNow(c, rows, flows)) bits |= 1 << f;
+                if (fitsNow(withFault(f), rows, flows)) bits |= 1 << f;
             }
-            setFault(0);
             due(name() + "the made fault is one", bits >> fault & 1, 1);
             long was = c.digest();
             due(name() + "fits", c.fits(), bits);
             due(name() + "fits changes nothing", c.digest(), was);
         }
 
-        void setFault(int f) {
+        CoilWorks withFault(int f) {
+            CoilWorks other = build(iron);
             for (int w = 0; w < 4; w++) {
-                int v = f == 1 + w ? 0 : f == 5 + w ? current[w] / 2 : current[w];
-                c.current(w, v);
+                if (f == 1 + w) other.current(w, 0);
+                if (f == 5 + w) other.current(w, current[w] / 2);
             }
-            for (int p = 0; p < pieces; p++) c.magnet(p, f == 9 + p ? 0 : magnet[p]);
+            for (int p = 0; p < pieces; p++) {
+                if (f == 9 + p) other.magnet(p, 0);
+            }
+            return other;
         }
 
         void checkGrade() {
@@ -408,7 +417,6 @@ public final class CoilWorksRest {
             CoilWorks other = build(others);
             int[][] rows = {{any(0, 23), any(0, pieces - 1)}, {any(0, 23), p}};
             long[] flows = {flowAt(other, rows[0][0], rows[0][1]), flowAt(other, rows[1][0], rows[1][1])};
-            c.forget();
             for (int i = 0; i < 2; i++) c.see(rows[i][0], rows[i][1], flows[i]);
             int many = 0;
             int least = CoilWorks.NONE;
