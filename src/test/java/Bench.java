@@ -9,7 +9,8 @@ import java.util.function.ToLongFunction;
  * calls, which have to change nothing: all that an object tells later on is as without the call.
  */
 abstract class Bench {
-    static final int NONE = CoilWorks.NONE, BAD = CoilWorks.BAD, NO = CoilWorks.NO, FULL = CoilWorks.FULL;
+    // As the document tells them, so that the class's own constants are held beside them too.
+    static final int NONE = -1, BAD = -2, NO = -3, FULL = -4;
     static final int BAD_FRACTION = -10, NO_FRACTION = -20, BAD_SOURCE = -1000000, BAD_STAR = -1000;
     static final int LOWEST = Integer.MIN_VALUE, HIGHEST = Integer.MAX_VALUE;
     private static final int MOST_SHOWN = 30;

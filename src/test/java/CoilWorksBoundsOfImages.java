@@ -17,6 +17,7 @@ public final class CoilWorksBoundsOfImages extends Bench {
         digestOfNumbers();
         digestAtTheBounds();
         digestOfRows();
+        constants();
         refusedForTwoReasons();
         manyTicks();
         manyRests();
@@ -197,12 +198,24 @@ public final class CoilWorksBoundsOfImages extends Bench {
             x.gap();
             x.write('a');
         }
+        for (int t = 0; t < 24; t++) x.gapAt(6, t, 200 - t);
+        x.magnet(6, 5000);
+        x.turns(3, 6, -50);
+        long full = x.digest();
         due("kept with all that is full", x.image(1), 1);
         x.from(0);
         due("one less", x.count(0), 6);
-        due("room for one", x.gap(), 6);
+        due("room for one", x.iron(4, 3, 3, 4, 2), 6);
+        x.magnet(6, -5000);
+        x.turns(3, 6, 50);
+        long other = x.digest();
+        x.image(0);
         x.from(1);
         due("full again", x.gap(), FULL);
+        due("the last piece as it was", x.digest(), full);
+        x.from(0);
+        due("the other last piece", x.digest(), other);
+        due("iron", x.gapAt(6, 0, 5), BAD);
     }
 
     private static void theFractionStays() {
@@ -394,6 +407,14 @@ public final class CoilWorksBoundsOfImages extends Bench {
     }
 
     // ---- all calls
+
+    private static void constants() {
+        sentence(1, "public static final int NONE = -1, BAD = -2, NO = -3, FULL = -4");
+        due("NONE", CoilWorks.NONE, NONE);
+        due("BAD", CoilWorks.BAD, BAD);
+        due("NO", CoilWorks.NO, NO);
+        due("FULL", CoilWorks.FULL, FULL);
+    }
 
     /** Each call that has two reasons, with both of them: the first one is told. */
     private static void refusedForTwoReasons() {

@@ -39,12 +39,12 @@ public final class CoilWorksBoundsOfSlots extends Bench {
             due("slots(" + s + ")", x.slots(s), 1);
             due("count(4)", x.count(4), s);
             due("count(5)", x.count(5), 0);
-            for (int i = 0; i < s; i += 5) x.side(i, i % 3, 1);
-            due("with sides", x.count(5), (s + 4) / 5);
+            for (int i = 0; i < s; i++) x.side(i, i % 3, 1);
+            due("with sides", x.count(5), s);
             due("refused", x.slots(25), BAD);
             due("refused", x.slots(5), BAD);
             due("as many as they were", x.count(4), s);
-            due("with the sides that were", x.count(5), (s + 4) / 5);
+            due("with the sides that were", x.count(5), s);
         }
         due("slots alike", x.slots(24), 1);
         due("without sides", x.count(5), 0);
